@@ -39,9 +39,9 @@ public final class PastureBanker {
     private static final String FIRST_SETUP =
             "rights;pasture hill 10;pasture fen 5;pasture ridge 7;herd ann 7 5 3;herd bob 3 2 2;herd cid 9 0 2;herd dot 2 2 2;herd eve 4 3 3;";
 
-    private final Input input = new Input();
+    private final Parser parser = new Parser();
+    private final Input input = parser.input;
     private final Output output = new Output();
-    private final Parser parser = new Parser(input);
     private final Script script = new Script();
     private final Banker banker = new Banker();
     private final State state = new State();
@@ -748,7 +748,8 @@ public final class PastureBanker {
                 return false;
             }
             int pasture = wantedPastures[herd];
-            return wantedAmounts[herd] > freeUnits(pasture) && allocations[cell(other, pasture)] > 0;
+            boolean isHolding = allocations[cell(other, pasture)] > 0;
+            return isHolding && wantedAmounts[herd] > freeUnits(pasture);
         }
 
         void joinQueue(int herd, int pasture, int amount) {
@@ -1260,13 +1261,9 @@ public final class PastureBanker {
         private static final int WRONG_NAME = 3;
         private static final int TOO_MANY = 4;
 
-        private final Input input;
+        final Input input = new Input();
         int code;
         int position = NONE;
-
-        Parser(Input input) {
-            this.input = input;
-        }
 
         private void start() {
             code = 0;

@@ -12,7 +12,26 @@ public final class GrammarTest {
         scriptsNotAllowed();
         scriptNames();
         scriptsTooLong();
+        truncatedTexts();
         Check.finish("GrammarTest");
+    }
+
+    /** What stood behind the end of the buffer does not belong to its last token. */
+    private static void truncatedTexts() {
+        PastureBanker banker = new PastureBanker();
+        Check.put(banker, "resize hill 12;");
+        banker.truncate(13);
+        Check.due("a script cut off in a number", IllegalArgumentException.class,
+                banker::runScript);
+        Check.due("ends there", "error 1 at 13", () -> outcome(banker, true));
+        Check.put(banker, "finish anna;");
+        banker.truncate(10);
+        Check.due("a script cut off in a name", IllegalArgumentException.class,
+                banker::runScript);
+        Check.due("ends there", "error 1 at 10", () -> outcome(banker, true));
+        Check.put(banker, "finish ann;x");
+        banker.truncate(11);
+        Check.due("a script cut off behind a command", 1, banker::runScript);
     }
 
     private static String outcome(PastureBanker banker, boolean threw) {
@@ -79,6 +98,9 @@ public final class GrammarTest {
         setupFails("   ", "", 1);
         setupFails("", "right;", 1);
         setupFails("", "rightss;", 1);
+        setupFails("", "bights;", 1);
+        setupFails("rights;", "gasture a 9;", 1);
+        setupFails("rights;pasture a 9;", "gerd x 1;", 1);
         setupFails("", ";", 1);
         setupFails("", "7", 1);
         setupFails("rights", "", 1);
@@ -212,6 +234,7 @@ public final class GrammarTest {
         scriptFails("", "graze ann;", 1);
         scriptFails("", "requests ann hill 1;", 1);
         scriptFails("", "reques ann hill 1;", 1);
+        scriptFails("", "fequest ann hill 1;", 1);
         scriptFails("", "ann;", 1);
         scriptFails("request ", "", 1);
         scriptFails("request ", "1 hill 1;", 1);

@@ -17,6 +17,7 @@ public final class PromiseTest {
         promises39To45();
         promises46To54();
         promises55To59();
+        allAtFullSize();
         Check.finish("PromiseTest");
     }
 
@@ -98,6 +99,50 @@ public final class PromiseTest {
         promises56And57Slots();
         promise58();
         promise59();
+    }
+
+    /** Each call with five pastures and eight herds: no row of the class is too short for it. */
+    private static void allAtFullSize() {
+        PastureBanker b = Check.loaded("rights;pasture a 8;pasture b 8;pasture c 8;pasture d 8;"
+                + "pasture e 8;herd a 0 1 1 1 1;herd b 0 1 1 1 1;herd c 0 1 1 1 1;herd d 0 1 1 1 1;"
+                + "herd e 0 1 1 1 1;herd f 0 1 1 1 1;herd g 0 1 1 1 1;herd h 0 1 1 1 1;");
+        for (int herd = 0; herd < 8; herd++) {
+            for (int pasture = 1; pasture < 5; pasture++) {
+                int h = herd;
+                int p = pasture;
+                due("full: granted", true, () -> b.request(h, p, 1));
+            }
+        }
+        for (int herd = 0; herd < 8; herd++) {
+            int h = herd;
+            b.setMaximum(h, 4, 9);
+            due("full: queued", false, () -> b.request(h, 4, 8));
+        }
+        due("full: queue", "0 1 2 3 4 5 6 7 ", () -> queue(b));
+        due("full: position 7", 7, () -> b.queuedHerd(7));
+        due("full: position 8", -1, () -> b.queuedHerd(8));
+        due("full: all are deadlocked", 8, b::deadlockedCount);
+        due("full: the last waits for the first", true, () -> b.waitsFor(7, 0));
+        due("full: safe capacity", 16, () -> b.safeCapacity(4));
+        due("full: not safe", false, b::isSafe);
+        due("full: best", 0, b::bestToFinish);
+        due("full: why", 1, () -> b.whyNotGranted(7, 4, 8));
+        due("full: largest", 0, () -> b.largestGrant(7, 4));
+        due("full: consistent", 0, b::inconsistencies);
+        due("full: text", "a:0,1,1,1,1? b:0,1,1,1,1? c:0,1,1,1,1? d:0,1,1,1,1? e:0,1,1,1,1? "
+                + "f:0,1,1,1,1? g:0,1,1,1,1? h:0,1,1,1,1?", () -> Check.output(b));
+        due("full: the last is saved", 8, () -> b.save(1));
+        due("full: the last finishes", 0, () -> b.finish(7));
+        due("full: two let one go on", 0, () -> b.finish(6));
+        due("full: undo", 5, b::undo);
+        due("full: restore", 8, () -> b.restore(1));
+        due("full: units for one: it gives back none", 1, () -> b.setCapacity(4, 16));
+        due("full: the first", 9, () -> b.allocation(0, 4));
+        due("full: one after the other", 1, () -> b.finish(0));
+        PastureBanker chain = chain();
+        due("full: consistent debts", 0, chain::inconsistencies);
+        due("full: the last herd of the order", 7, () -> chain.settlementOrder(7));
+        due("full: safe order", "0 1 2 3 4 5 6 7 ", () -> safeOrder(chain));
     }
 
     // ---- states that several promises need
@@ -327,6 +372,7 @@ public final class PromiseTest {
         b.save(0);
         b.save(1);
         b.writeAllocations();
+        b.bestToFinish();
         Check.put(b, "rights;pasture m 8;pasture n 7;herd q 3 4;herd p 5 6;herd u 0 0;");
         due("4 load", 3, b::load);
         due("4 pastures", 2, b::pastureCount);
@@ -350,6 +396,25 @@ public final class PromiseTest {
         due("4 buffer", ARGUMENT, () -> b.truncate(1));
         due("4 output stays", (int) 'p', () -> b.outputByte(0));
         due("4 one herd", 1, () -> Check.loaded("rights;pasture a 1;herd x 1;").herdCount());
+        promise4Busy();
+    }
+
+    /** Nothing of a state in which everything is in use is left after a setup. */
+    private static void promise4Busy() {
+        String setup = "rights;pasture a 4;herd r 1;herd p 1;herd q 3;herd s 2;";
+        PastureBanker b = Check.loaded(setup);
+        Check.run(b, "request p a 1;request q a 3;request r a 1;request s a 2;release q a 1;"
+                + "release r a 1;request q a 1;request r a 1;cancel s;lend r p 5;");
+        due("4 r waits", "r:0? p:1 q:3 s:0", () -> Check.output(b));
+        due("4 all is in use", "3 1 3 1", () -> counters(b));
+        due("4 p owes", 5, () -> b.totalDebt(1));
+        b.bestToFinish();
+        Check.put(b, setup);
+        b.load();
+        due("4 no units", "r:0 p:0 q:0 s:0", () -> Check.output(b));
+        due("4 no queue", 0, b::queueLength);
+        due("4 no debts", 0, () -> b.totalDebt(1));
+        due("4 no counts", "0 0 0 0", () -> counters(b));
     }
 
     private static void promise4Error() {
@@ -619,6 +684,10 @@ public final class PromiseTest {
         d.cancel(0);
         d.cancel(1);
         due("21 not safe", 0, () -> d.largestGrant(0, 1));
+        PastureBanker one = Check.loaded("rights;pasture a 1;pasture b 1;herd x 1 1;herd y 1 1;");
+        one.request(0, 0, 1);
+        due("21 not even one of one unit", 0, () -> one.largestGrant(1, 1));
+        due("21 one of one unit", 1, () -> one.largestGrant(0, 1));
         noHerd("21 largestGrant", b, herd -> b.largestGrant(herd, 0));
         noPasture("21 largestGrant", b, pasture -> b.largestGrant(0, pasture));
     }
@@ -638,6 +707,8 @@ public final class PromiseTest {
         due("22 this one helps", 5, () -> b.safeCapacity(1));
         PastureBanker zero = Check.loaded("rights;pasture a 5;herd x 0;");
         due("22 nobody claims", 0, () -> zero.safeCapacity(0));
+        PastureBanker most = Check.loaded("rights;pasture a 50;herd x 50;");
+        due("22 the greatest claim of all", 50, () -> most.safeCapacity(0));
         PastureBanker eight = Check.loaded("rights;pasture a 50;herd a 6;herd b 6;herd c 6;"
                 + "herd d 6;herd e 6;herd f 6;herd g 6;herd h 6;");
         for (int herd = 0; herd < 8; herd++) {
@@ -656,6 +727,9 @@ public final class PromiseTest {
         due("23 nothing has changed", "2 3 ", () -> queue(b));
         due("23 no counter has changed", "2 0 2 0", () -> counters(b));
         due("23 no allocation has changed", 3, () -> b.allocation(1, 0));
+        PastureBanker one = queued();
+        one.cancel(2);
+        due("23 only q frees enough for s", 1, one::bestToFinish);
         b.cancel(3);
         due("23 the lowest number wins", 0, b::bestToFinish);
         b.cancel(2);
@@ -701,6 +775,8 @@ public final class PromiseTest {
         due("28 r no more", 0, () -> b.requestedAmount(2));
         b.request(2, 0, 1);
         due("25 r is behind s now", "3 2 ", () -> queue(b));
+        b.cancel(2);
+        due("25 s stays in front", "3 ", () -> queue(b));
         PastureBanker d = deadlocked();
         due("27 x wants b", 1, () -> d.requestedPasture(0));
         due("27 y wants a", 0, () -> d.requestedPasture(1));
@@ -751,6 +827,14 @@ public final class PromiseTest {
         due("31 none of the queue", 0, q::deadlockedCount);
         noHerd("30 isDeadlocked", q, q::isDeadlocked);
         noHerd("30 isDeadlocked", d, d::isDeadlocked);
+        // Each pick frees what the herd in front of it waits for.
+        PastureBanker chain = Check.loaded("rights;pasture a 1;pasture b 1;pasture c 1;"
+                + "herd w 1 0 0;herd x 1 1 0;herd y 0 1 1;herd z 0 0 1;");
+        Check.run(chain, "request x a 1;request y b 1;request z c 1;"
+                + "request w a 1;request x b 1;request y c 1;");
+        due("30 w, x and y wait", "0 1 2 ", () -> queue(chain));
+        due("31 nobody is deadlocked", 0, chain::deadlockedCount);
+        due("30 w is picked last", false, () -> chain.isDeadlocked(0));
     }
 
     /** w waits for a as well, z holds nothing and does not wait: w is stuck, z is not. */
@@ -940,6 +1024,11 @@ public final class PromiseTest {
         b.undo();
         b.undo();
         due("45 after undo", 0, b::inconsistencies);
+        PastureBanker c = queued();
+        c.cancel(2);
+        due("45 after cancel", 0, c::inconsistencies);
+        c.finish(3);
+        due("45 after finish", 0, c::inconsistencies);
     }
 
     // ---- changes
@@ -1031,6 +1120,12 @@ public final class PromiseTest {
         due("47 s is granted", 1, () -> b.release(1, 0, 1));
         due("47 the queue is empty", 0, b::queueLength);
         due("47 allocations", "p:0 q:1 r:1 s:2", () -> Check.output(b));
+        PastureBanker front = queued();
+        front.cancel(2);
+        front.request(2, 0, 1);
+        due("47 s is in front", "3 2 ", () -> queue(front));
+        due("47 r is granted behind s", 1, () -> front.release(1, 0, 1));
+        due("47 s still waits", "3 ", () -> queue(front));
         PastureBanker later = queued();
         due("47 two at once", 2, () -> later.release(1, 0, 3));
         due("47 granted", "2 2 2 0", () -> counters(later));
@@ -1348,6 +1443,15 @@ public final class PromiseTest {
             b.undo();
             due("55 change " + change + " is undone", before, () -> dump(b));
         }
+        PastureBanker two = deadlocked();
+        String wanted = dump(two);
+        two.cancel(0);
+        two.setMaximum(0, 0, 2);
+        two.request(0, 0, 1);
+        two.undo();
+        two.undo();
+        two.undo();
+        due("55 x wants what it wanted", wanted, () -> dump(two));
         b.finish(0);
         int length = b.writeAllocations();
         Check.put(b, "ann");
@@ -1407,6 +1511,14 @@ public final class PromiseTest {
         b.lend(0, 1, 1);
         b.save(1);
         due("56 save leaves the changes", 0, b::undo);
+        PastureBanker two = deadlocked();
+        String wanted = dump(two);
+        two.save(0);
+        two.cancel(0);
+        two.setMaximum(0, 0, 2);
+        two.request(0, 0, 1);
+        two.restore(0);
+        due("57 x wants what it wanted", wanted, () -> dump(two));
         due("56 undo leaves what is saved", 1, () -> b.restore(1));
         due("57 the loan is back", 6, () -> b.debt(1, 0));
     }
@@ -1452,6 +1564,9 @@ public final class PromiseTest {
         units.request(0, 1, 9);
         units.request(1, 1, 10);
         due("58 two digits", "x:50,9 y:0,10", () -> Check.output(units));
+        units.release(0, 0, 1);
+        units.request(1, 1, 17);
+        due("58 other digits", "x:49,9 y:0,27", () -> Check.output(units));
         PastureBanker large = Check.loaded("rights;pasture a 50;pasture b 50;pasture c 50;"
                 + "pasture d 50;pasture e 50;herd aaaaaa 1 1 1 1 1;herd bbbbbb 10 10 10 10 10;"
                 + "herd cccccc 10 10 10 10 10;herd dddddd 0 0 0 0 0;herd eeeeee 10 10 10 10 10;"
