@@ -8,6 +8,8 @@ final class Check {
 
     private static int wrong = 0;
     private static int done = 0;
+    private static int doneBefore = -1;
+    private static String about = "";
 
     private Check() {
     }
@@ -23,8 +25,18 @@ final class Check {
         done++;
         if (!Objects.equals(want, got)) {
             wrong++;
-            System.out.println(what + ": answered " + got + ", due is " + want);
+            System.out.println(about + what + ": answered " + got + ", due is " + want);
         }
+    }
+
+    /** Tells what the next checks are about; there must be more than the one that it is there. */
+    static void about(String subject) {
+        if (doneBefore >= 0 && done < doneBefore + 2) {
+            wrong++;
+            System.out.println(about + "is not tested");
+        }
+        doneBefore = done;
+        about = subject + ": ";
     }
 
     static void finish(String test) {
@@ -64,6 +76,35 @@ final class Check {
     static int run(PastureBanker banker, String script) {
         put(banker, script);
         return banker.runScript();
+    }
+
+    /** Loads the text into an object: how many herds it has, or the error. */
+    static String load(PastureBanker banker, String text) {
+        put(banker, text);
+        try {
+            return "loaded " + banker.load() + noError(banker);
+        } catch (IllegalArgumentException e) {
+            return codes(banker);
+        }
+    }
+
+    /** Runs the text on an object: how many commands were executed, or the error. */
+    static String script(PastureBanker banker, String text) {
+        put(banker, text);
+        try {
+            return "ran " + banker.runScript() + noError(banker);
+        } catch (IllegalArgumentException e) {
+            return codes(banker);
+        }
+    }
+
+    private static String noError(PastureBanker banker) {
+        boolean isClear = banker.errorCode() == 0 && banker.errorPosition() == PastureBanker.NONE;
+        return isClear ? "" : " without an exception, but with " + codes(banker);
+    }
+
+    static String codes(PastureBanker banker) {
+        return "error " + banker.errorCode() + " at " + banker.errorPosition();
     }
 
     static String output(PastureBanker banker) {

@@ -84,7 +84,7 @@ public final class ModelTest {
             call("load");
         }
         int most = 4 + below(CALLS);
-        while (log.size() < most && !failed) {
+        while (log.size() < most && !isOver()) {
             int dice = below(100);
             if (dice < 50) {
                 random(CHANGES[below(CHANGES.length)]);
@@ -101,13 +101,18 @@ public final class ModelTest {
         everything();
     }
 
+    /** The document promises nothing of an object after its 512th call. */
+    private boolean isOver() {
+        return failed || log.size() >= CALLS;
+    }
+
     private void everything() throws Exception {
         for (String query : QUERIES) {
             String[] parts = query.split(" ", -1);
             int first = parts[1].isEmpty() ? 1 : 8;
             int second = parts[1].length() < 2 ? 1 : 8;
-            for (int a = 0; a < first && !failed; a++) {
-                for (int b = 0; b < second && !failed; b++) {
+            for (int a = 0; a < first && !isOver(); a++) {
+                for (int b = 0; b < second && !isOver(); b++) {
                     if (parts[1].length() == 3) {
                         call(parts[0], a, b, 1);
                     } else if (parts[1].length() == 2) {
@@ -175,6 +180,9 @@ public final class ModelTest {
     }
 
     private void call(String name, Integer... arguments) throws Exception {
+        if (isOver()) {
+            return;
+        }
         String call = name + java.util.Arrays.toString(arguments);
         String want = answer(theirs.get(name), model, arguments);
         String got = answer(ours.get(name), banker, arguments);

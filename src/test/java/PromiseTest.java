@@ -118,7 +118,7 @@ public final class PromiseTest {
             b.setMaximum(h, 4, 9);
             due("full: queued", false, () -> b.request(h, 4, 8));
         }
-        due("full: queue", "0 1 2 3 4 5 6 7 ", () -> queue(b));
+        due("full: queue", "0 1 2 3 4 5 6 7 ", () -> Look.queue(b));
         due("full: position 7", 7, () -> b.queuedHerd(7));
         due("full: position 8", -1, () -> b.queuedHerd(8));
         due("full: all are deadlocked", 8, b::deadlockedCount);
@@ -142,7 +142,7 @@ public final class PromiseTest {
         PastureBanker chain = chain();
         due("full: consistent debts", 0, chain::inconsistencies);
         due("full: the last herd of the order", 7, () -> chain.settlementOrder(7));
-        due("full: safe order", "0 1 2 3 4 5 6 7 ", () -> safeOrder(chain));
+        due("full: safe order", "0 1 2 3 4 5 6 7 ", () -> Look.safeOrder(chain));
     }
 
     // ---- states that several promises need
@@ -216,57 +216,8 @@ public final class PromiseTest {
         Object run(int number);
     }
 
-    private static String herdName(PastureBanker b, int herd) {
-        StringBuilder name = new StringBuilder();
-        try {
-            for (int index = 0; index < 10; index++) {
-                name.append((char) b.herdNameByte(herd, index));
-            }
-        } catch (IndexOutOfBoundsException end) {
-            return name.toString();
-        }
-        return name + "..";
-    }
-
-    private static String pastureName(PastureBanker b, int pasture) {
-        StringBuilder name = new StringBuilder();
-        try {
-            for (int index = 0; index < 10; index++) {
-                name.append((char) b.pastureNameByte(pasture, index));
-            }
-        } catch (IndexOutOfBoundsException end) {
-            return name.toString();
-        }
-        return name + "..";
-    }
-
-    private static String safeOrder(PastureBanker b) {
-        StringBuilder order = new StringBuilder();
-        for (int position = 0; position < b.herdCount(); position++) {
-            order.append(b.safeOrder(position)).append(' ');
-        }
-        return order.toString();
-    }
-
-    private static String settlement(PastureBanker b) {
-        StringBuilder order = new StringBuilder();
-        for (int position = 0; position < b.herdCount(); position++) {
-            order.append(b.settlementOrder(position)).append(' ');
-        }
-        return order.toString();
-    }
-
-    private static String queue(PastureBanker b) {
-        StringBuilder queue = new StringBuilder();
-        for (int position = 0; position < b.queueLength(); position++) {
-            queue.append(b.queuedHerd(position)).append(' ');
-        }
-        return queue.toString();
-    }
-
-    private static String counters(PastureBanker b) {
-        return b.immediateGrants() + " " + b.queuedGrants() + " " + b.queuedRequests() + " "
-                + b.withdrawnRequests();
+    private interface Change {
+        Object run(PastureBanker b);
     }
 
     // ---- input
@@ -281,7 +232,7 @@ public final class PromiseTest {
         due("1 pastures", 3, b::pastureCount);
         for (int pasture = 0; pasture < 3; pasture++) {
             int p = pasture;
-            due("1 pasture name", pastures[p], () -> pastureName(b, p));
+            due("1 pasture name", pastures[p], () -> Look.pastureName(b, p));
             due("1 capacity", capacities[p], () -> b.capacity(p));
             due("1 available", capacities[p], () -> b.available(p));
             for (int herd = 0; herd < 5; herd++) {
@@ -292,11 +243,11 @@ public final class PromiseTest {
         }
         for (int herd = 0; herd < 5; herd++) {
             int h = herd;
-            due("1 herd name", herds[h], () -> herdName(b, h));
+            due("1 herd name", herds[h], () -> Look.herdName(b, h));
             due("1 debt", 0, () -> b.totalDebt(h));
             due("1 waiting", false, () -> b.isWaiting(h));
         }
-        due("1 counters", "0 0 0 0", () -> counters(b));
+        due("1 counters", "0 0 0 0", () -> Look.counters(b));
         due("1 queue", 0, b::queueLength);
         due("1 error code", 0, b::errorCode);
         due("1 error position", -1, b::errorPosition);
@@ -337,8 +288,8 @@ public final class PromiseTest {
         for (int start = 0; start < 20; start++) {
             String shifted = " ".repeat(start) + setup;
             PastureBanker b = Check.loaded(shifted);
-            due("2 names", "abcdef ghijkl mnopqr st", () -> herdName(b, 0) + " " + herdName(b, 1)
-                    + " " + herdName(b, 2) + " " + herdName(b, 3));
+            due("2 names", "abcdef ghijkl mnopqr st", () -> Look.herdName(b, 0) + " " + Look.herdName(b, 1)
+                    + " " + Look.herdName(b, 2) + " " + Look.herdName(b, 3));
         }
         PastureBanker b = Check.loaded("rights;pasture a 9;herd uvwxyz 1;herd abcdef 2;");
         b.append(0x61626364, 0x65666768, 0, 0, 0);
@@ -379,15 +330,15 @@ public final class PromiseTest {
         due("4 herds", 3, b::herdCount);
         due("4 capacity", 7, () -> b.capacity(1));
         due("4 available", 8, () -> b.available(0));
-        due("4 names", "q p u m n", () -> herdName(b, 0) + " " + herdName(b, 1) + " "
-                + herdName(b, 2) + " " + pastureName(b, 0) + " " + pastureName(b, 1));
+        due("4 names", "q p u m n", () -> Look.herdName(b, 0) + " " + Look.herdName(b, 1) + " "
+                + Look.herdName(b, 2) + " " + Look.pastureName(b, 0) + " " + Look.pastureName(b, 1));
         due("4 claims", "3 4 5 6 0", () -> b.maximum(0, 0) + " " + b.maximum(0, 1) + " "
                 + b.maximum(1, 0) + " " + b.maximum(1, 1) + " " + b.maximum(2, 0));
         due("4 allocation", 0, () -> b.allocation(1, 0));
         due("4 debt", 0, () -> b.debt(1, 0));
         due("4 queue", 0, b::queueLength);
         due("4 waiting", false, () -> b.isWaiting(2));
-        due("4 counters", "0 0 0 0", () -> counters(b));
+        due("4 counters", "0 0 0 0", () -> Look.counters(b));
         due("4 saved 0", STATE, () -> b.restore(0));
         due("4 saved 1", STATE, () -> b.restore(1));
         due("4 undo", STATE, b::undo);
@@ -406,7 +357,7 @@ public final class PromiseTest {
         Check.run(b, "request p a 1;request q a 3;request r a 1;request s a 2;release q a 1;"
                 + "release r a 1;request q a 1;request r a 1;cancel s;lend r p 5;");
         due("4 r waits", "r:0? p:1 q:3 s:0", () -> Check.output(b));
-        due("4 all is in use", "3 1 3 1", () -> counters(b));
+        due("4 all is in use", "3 1 3 1", () -> Look.counters(b));
         due("4 p owes", 5, () -> b.totalDebt(1));
         b.bestToFinish();
         Check.put(b, setup);
@@ -414,7 +365,7 @@ public final class PromiseTest {
         due("4 no units", "r:0 p:0 q:0 s:0", () -> Check.output(b));
         due("4 no queue", 0, b::queueLength);
         due("4 no debts", 0, () -> b.totalDebt(1));
-        due("4 no counts", "0 0 0 0", () -> counters(b));
+        due("4 no counts", "0 0 0 0", () -> Look.counters(b));
     }
 
     private static void promise4Error() {
@@ -426,12 +377,12 @@ public final class PromiseTest {
         due("4 buffer is empty", ARGUMENT, () -> b.truncate(1));
         due("4 herds stay", 4, b::herdCount);
         due("4 pastures stay", 1, b::pastureCount);
-        due("4 names stay", "p q", () -> herdName(b, 0) + " " + herdName(b, 1));
+        due("4 names stay", "p q", () -> Look.herdName(b, 0) + " " + Look.herdName(b, 1));
         due("4 capacity stays", 4, () -> b.capacity(0));
         due("4 allocation stays", 3, () -> b.allocation(1, 0));
         due("4 debt stays", 5, () -> b.debt(1, 0));
-        due("4 queue stays", "2 3 ", () -> queue(b));
-        due("4 counters stay", "2 0 2 0", () -> counters(b));
+        due("4 queue stays", "2 3 ", () -> Look.queue(b));
+        due("4 counters stay", "2 0 2 0", () -> Look.counters(b));
         due("4 undo stays", 4, b::undo);
         due("4 saved stays", 2, () -> b.restore(1));
         due("4 empty text", ARGUMENT, b::load);
@@ -528,8 +479,8 @@ public final class PromiseTest {
         PastureBanker b = Check.loaded(
                 "rights;pasture abcdef 1;pasture z 1;herd uvwxyz 1 1;herd m 1 1;herd anna 0 0;");
         due("14 names", "uvwxyz m anna",
-                () -> herdName(b, 0) + " " + herdName(b, 1) + " " + herdName(b, 2));
-        due("15 names", "abcdef z", () -> pastureName(b, 0) + " " + pastureName(b, 1));
+                () -> Look.herdName(b, 0) + " " + Look.herdName(b, 1) + " " + Look.herdName(b, 2));
+        due("15 names", "abcdef z", () -> Look.pastureName(b, 0) + " " + Look.pastureName(b, 1));
         due("14 last letter", (int) 'z', () -> b.herdNameByte(0, 5));
         due("14 index 6", INDEX, () -> b.herdNameByte(0, 6));
         due("14 index 1 of one letter", INDEX, () -> b.herdNameByte(1, 1));
@@ -579,7 +530,7 @@ public final class PromiseTest {
     private static void promises17And18() {
         PastureBanker b = shared();
         due("17 safe", true, b::isSafe);
-        due("18 safe order", "1 3 0 2 4 ", () -> safeOrder(b));
+        due("18 safe order", "1 3 0 2 4 ", () -> Look.safeOrder(b));
         due("18 position -1", -1, () -> b.safeOrder(-1));
         due("18 position 5", -1, () -> b.safeOrder(5));
         due("18 the least", -1, () -> b.safeOrder(LEAST));
@@ -590,20 +541,20 @@ public final class PromiseTest {
         b.setCapacity(0, 7);
         // Available 0 3 2: dot finishes and leaves 2 4 3, bob 4 4 3, eve 4 4 5: all need more.
         due("17 not safe", false, b::isSafe);
-        due("18 not safe", "-1 -1 -1 -1 -1 ", () -> safeOrder(b));
+        due("18 not safe", "-1 -1 -1 -1 -1 ", () -> Look.safeOrder(b));
         PastureBanker d = deadlocked();
         due("17 deadlocked", false, d::isSafe);
         due("18 deadlocked", -1, () -> d.safeOrder(0));
     }
 
     private static void promise18Order() {
-        due("18 all can finish", "0 1 2 3 4 ", () -> safeOrder(new PastureBanker()));
+        due("18 all can finish", "0 1 2 3 4 ", () -> Look.safeOrder(new PastureBanker()));
         // Only c can finish at first, then b, and then a comes before d.
         PastureBanker b = Check.loaded("rights;pasture m 6;herd a 6;herd b 4;herd c 3;herd d 6;");
         b.request(2, 0, 2);
         b.request(1, 0, 2);
         b.request(0, 0, 1);
-        due("18 c, b, a, d", "2 1 0 3 ", () -> safeOrder(b));
+        due("18 c, b, a, d", "2 1 0 3 ", () -> Look.safeOrder(b));
     }
 
     private static void promise19() {
@@ -669,10 +620,11 @@ public final class PromiseTest {
                 int h = herd;
                 int p = pasture;
                 int most = 0;
+                PastureBanker asked = shared();
                 for (int amount = 1; amount <= 50; amount++) {
-                    most = b.whyNotGranted(h, p, amount) == 0 ? amount : most;
+                    most = asked.whyNotGranted(h, p, amount) == 0 ? amount : most;
                 }
-                due("21 of " + h + " on " + p, most, () -> b.largestGrant(h, p));
+                due("21 of " + h + " on " + p, most, () -> asked.largestGrant(h, p));
             }
         }
         PastureBanker q = queued();
@@ -724,8 +676,8 @@ public final class PromiseTest {
     private static void promise23() {
         PastureBanker b = queued();
         due("23 q frees most", 1, b::bestToFinish);
-        due("23 nothing has changed", "2 3 ", () -> queue(b));
-        due("23 no counter has changed", "2 0 2 0", () -> counters(b));
+        due("23 nothing has changed", "2 3 ", () -> Look.queue(b));
+        due("23 no counter has changed", "2 0 2 0", () -> Look.counters(b));
         due("23 no allocation has changed", 3, () -> b.allocation(1, 0));
         PastureBanker one = queued();
         one.cancel(2);
@@ -740,7 +692,7 @@ public final class PromiseTest {
         own.request(0, 0, 1);
         own.request(3, 0, 1);
         own.request(1, 0, 1);
-        due("23 only x and z wait", "3 1 ", () -> queue(own));
+        due("23 only x and z wait", "3 1 ", () -> Look.queue(own));
         due("23 w lets z go on, z lets x go on", 0, own::bestToFinish);
         PastureBanker none = deadlocked();
         due("23 each lets one go on", 0, none::bestToFinish);
@@ -774,9 +726,9 @@ public final class PromiseTest {
         due("27 r no more", -1, () -> b.requestedPasture(2));
         due("28 r no more", 0, () -> b.requestedAmount(2));
         b.request(2, 0, 1);
-        due("25 r is behind s now", "3 2 ", () -> queue(b));
+        due("25 r is behind s now", "3 2 ", () -> Look.queue(b));
         b.cancel(2);
-        due("25 s stays in front", "3 ", () -> queue(b));
+        due("25 s stays in front", "3 ", () -> Look.queue(b));
         PastureBanker d = deadlocked();
         due("27 x wants b", 1, () -> d.requestedPasture(0));
         due("27 y wants a", 0, () -> d.requestedPasture(1));
@@ -832,7 +784,7 @@ public final class PromiseTest {
                 + "herd w 1 0 0;herd x 1 1 0;herd y 0 1 1;herd z 0 0 1;");
         Check.run(chain, "request x a 1;request y b 1;request z c 1;"
                 + "request w a 1;request x b 1;request y c 1;");
-        due("30 w, x and y wait", "0 1 2 ", () -> queue(chain));
+        due("30 w, x and y wait", "0 1 2 ", () -> Look.queue(chain));
         due("31 nobody is deadlocked", 0, chain::deadlockedCount);
         due("30 w is picked last", false, () -> chain.isDeadlocked(0));
     }
@@ -922,15 +874,15 @@ public final class PromiseTest {
     }
 
     private static void promise37() {
-        due("37 no debts", "0 1 2 3 4 ", () -> settlement(new PastureBanker()));
+        due("37 no debts", "0 1 2 3 4 ", () -> Look.settlement(new PastureBanker()));
         PastureBanker b = indebted();
-        due("37 debtors first", "0 1 3 2 4 ", () -> settlement(b));
+        due("37 debtors first", "0 1 3 2 4 ", () -> Look.settlement(b));
         PastureBanker back = new PastureBanker();
         back.lend(0, 4, 1);
         back.lend(1, 0, 1);
         back.lend(2, 4, 1);
-        due("37 4 before 0 and 2", "3 4 0 1 2 ", () -> settlement(back));
-        due("37 a chain", "0 1 2 3 4 5 6 7 ", () -> settlement(chain()));
+        due("37 4 before 0 and 2", "3 4 0 1 2 ", () -> Look.settlement(back));
+        due("37 a chain", "0 1 2 3 4 5 6 7 ", () -> Look.settlement(chain()));
         due("37 position -1", INDEX, () -> b.settlementOrder(-1));
         due("37 position 5", INDEX, () -> b.settlementOrder(5));
         due("37 the least", INDEX, () -> b.settlementOrder(LEAST));
@@ -954,24 +906,24 @@ public final class PromiseTest {
 
     private static void promises39To42() {
         PastureBanker b = queued();
-        due("39 to 42", "2 0 2 0", () -> counters(b));
+        due("39 to 42", "2 0 2 0", () -> Look.counters(b));
         b.release(0, 0, 1);
-        due("40 r from the queue", "2 1 2 0", () -> counters(b));
+        due("40 r from the queue", "2 1 2 0", () -> Look.counters(b));
         b.cancel(3);
-        due("42 by cancel", "2 1 2 1", () -> counters(b));
+        due("42 by cancel", "2 1 2 1", () -> Look.counters(b));
         b.finish(2);
-        due("42 not by finish of one that does not wait", "2 1 2 1", () -> counters(b));
+        due("42 not by finish of one that does not wait", "2 1 2 1", () -> Look.counters(b));
         due("39 p at once", true, () -> b.request(0, 0, 1));
-        due("39 p at once", "3 1 2 1", () -> counters(b));
+        due("39 p at once", "3 1 2 1", () -> Look.counters(b));
         due("41 s waits", false, () -> b.request(3, 0, 2));
-        due("41 s waits", "3 1 3 1", () -> counters(b));
+        due("41 s waits", "3 1 3 1", () -> Look.counters(b));
         b.finish(3);
-        due("42 by finish", "3 1 3 2", () -> counters(b));
+        due("42 by finish", "3 1 3 2", () -> Look.counters(b));
         due("39 a request that throws", STATE, () -> b.request(0, 0, 1));
-        due("39 is not counted", "3 1 3 2", () -> counters(b));
+        due("39 is not counted", "3 1 3 2", () -> Look.counters(b));
         Check.put(b, "rights;pasture a 4;herd p 1;");
         b.load();
-        due("39 to 42 after a setup", "0 0 0 0", () -> counters(b));
+        due("39 to 42 after a setup", "0 0 0 0", () -> Look.counters(b));
     }
 
     private static void promise43() {
@@ -1043,7 +995,7 @@ public final class PromiseTest {
         due("46 allocation stays", 0, () -> b.allocation(4, 0));
         due("46 available stays", 2, () -> b.available(0));
         due("46 the queue does not matter", true, () -> b.request(3, 1, 1));
-        due("46 others are granted", "10 0 1 0", () -> counters(b));
+        due("46 others are granted", "10 0 1 0", () -> Look.counters(b));
         PastureBanker d = Check.loaded("rights;pasture a 1;pasture b 1;herd x 1 1;herd y 1 1;");
         due("46 x takes a", true, () -> d.request(0, 0, 1));
         due("46 y would make it unsafe", false, () -> d.request(1, 1, 1));
@@ -1071,8 +1023,8 @@ public final class PromiseTest {
         due("46 above the need", STATE, () -> b.request(0, 0, 1));
         due("46 amount 1 of need 1", false, () -> b.cancel(2) < 0 || b.request(2, 0, 1));
         due("46 amount 2 of need 2", STATE, () -> b.request(3, 0, 2));
-        due("46 nothing has changed", "2 0 3 1", () -> counters(b));
-        due("46 nothing has changed", "3 2 ", () -> queue(b));
+        due("46 nothing has changed", "2 0 3 1", () -> Look.counters(b));
+        due("46 nothing has changed", "3 2 ", () -> Look.queue(b));
     }
 
     private static Object requestOrUndo(PastureBanker b, int herd, int pasture) {
@@ -1115,7 +1067,7 @@ public final class PromiseTest {
     private static void promise47Queue() {
         PastureBanker b = queued();
         due("47 r is granted", 1, () -> b.release(1, 0, 1));
-        due("47 s is not", "3 ", () -> queue(b));
+        due("47 s is not", "3 ", () -> Look.queue(b));
         due("47 too few for s", 0, () -> b.release(0, 0, 1));
         due("47 s is granted", 1, () -> b.release(1, 0, 1));
         due("47 the queue is empty", 0, b::queueLength);
@@ -1123,16 +1075,16 @@ public final class PromiseTest {
         PastureBanker front = queued();
         front.cancel(2);
         front.request(2, 0, 1);
-        due("47 s is in front", "3 2 ", () -> queue(front));
+        due("47 s is in front", "3 2 ", () -> Look.queue(front));
         due("47 r is granted behind s", 1, () -> front.release(1, 0, 1));
-        due("47 s still waits", "3 ", () -> queue(front));
+        due("47 s still waits", "3 ", () -> Look.queue(front));
         PastureBanker later = queued();
         due("47 two at once", 2, () -> later.release(1, 0, 3));
-        due("47 granted", "2 2 2 0", () -> counters(later));
+        due("47 granted", "2 2 2 0", () -> Look.counters(later));
         PastureBanker unsafe = Check.loaded("rights;pasture a 2;herd x 2;herd y 2;");
         unsafe.request(0, 0, 1);
         unsafe.request(1, 0, 1);
-        due("47 y waits, as x needs the second unit", "1 ", () -> queue(unsafe));
+        due("47 y waits, as x needs the second unit", "1 ", () -> Look.queue(unsafe));
         due("47 y is granted", 1, () -> unsafe.release(0, 0, 1));
         due("47 waiting herd releases", 0, () -> waitingHerdReleases());
     }
@@ -1151,11 +1103,11 @@ public final class PromiseTest {
         due("48 q", 2, () -> b.finish(1));
         due("48 q holds nothing", 0, () -> b.allocation(1, 0));
         due("48 q keeps its claim", 3, () -> b.maximum(1, 0));
-        due("48 granted", "2 2 2 0", () -> counters(b));
+        due("48 granted", "2 2 2 0", () -> Look.counters(b));
         PastureBanker own = queued();
         due("48 r, which waits", 0, () -> own.finish(2));
-        due("48 r waits no more", "3 ", () -> queue(own));
-        due("48 withdrawn", "2 0 2 1", () -> counters(own));
+        due("48 r waits no more", "3 ", () -> Look.queue(own));
+        due("48 withdrawn", "2 0 2 1", () -> Look.counters(own));
         due("48 p, which lets nobody go on", 0, () -> own.finish(0));
         due("48 again", 0, () -> own.finish(0));
         PastureBanker all = shared();
@@ -1184,15 +1136,15 @@ public final class PromiseTest {
         PastureBanker b = queued();
         due("49 r", 0, () -> b.cancel(2));
         due("49 r waits no more", false, () -> b.isWaiting(2));
-        due("49 s still waits", "3 ", () -> queue(b));
-        due("49 withdrawn", "2 0 2 1", () -> counters(b));
+        due("49 s still waits", "3 ", () -> Look.queue(b));
+        due("49 withdrawn", "2 0 2 1", () -> Look.counters(b));
         due("49 r again", STATE, () -> b.cancel(2));
         due("49 q does not wait", STATE, () -> b.cancel(1));
         due("49 herd -1", INDEX, () -> b.cancel(-1));
         due("49 herd 4", INDEX, () -> b.cancel(4));
         due("49 the least", INDEX, () -> b.cancel(LEAST));
         due("49 the greatest", INDEX, () -> b.cancel(GREATEST));
-        due("49 nothing has changed", "2 0 2 1", () -> counters(b));
+        due("49 nothing has changed", "2 0 2 1", () -> Look.counters(b));
     }
 
     private static void promise50() {
@@ -1200,7 +1152,7 @@ public final class PromiseTest {
         due("50 one more unit", 1, () -> b.setCapacity(0, 5));
         due("50 capacity", 5, () -> b.capacity(0));
         due("50 r was granted", 1, () -> b.allocation(2, 0));
-        due("50 s waits", "3 ", () -> queue(b));
+        due("50 s waits", "3 ", () -> Look.queue(b));
         due("50 below the allocations", STATE, () -> b.setCapacity(0, 4));
         due("50 just the allocations", 0, () -> b.setCapacity(0, 5));
         due("50 capacity 0", STATE, () -> b.setCapacity(0, 0));
@@ -1365,7 +1317,7 @@ public final class PromiseTest {
         due("54 no grant in an unsafe state", true, () -> b.isWaiting(3));
         due("54 granted when the capacity is there", 1, () -> Check.run(b, "resize a 4;"));
         due("54 s holds 9 of p", 9, () -> b.allocation(3, 1));
-        due("54 counters", "2 2 3 1", () -> counters(b));
+        due("54 counters", "2 2 3 1", () -> Look.counters(b));
     }
 
     private static void promise54Stops() {
@@ -1428,30 +1380,30 @@ public final class PromiseTest {
     private static void promise55Everything() {
         PastureBanker b = queued();
         b.lend(0, 1, 5);
-        String before = dump(b);
-        Check.Call[] changes = {() -> b.request(0, 0, 1), () -> b.finish(1), () -> b.cancel(3),
-            () -> b.release(1, 0, 2), () -> b.setCapacity(0, 40), () -> b.setMaximum(2, 0, 9),
-            () -> b.lend(0, 2, 5), () -> b.repay(1, 0, 5),
-            () -> Check.run(b, "finish p;finish q;finish r;resize a 9;lend p r 3;"),
-            () -> b.finish(2)};
-        due("55 a request that throws", STATE, changes[0]);
-        for (int change = 1; change < changes.length; change++) {
-            Check.Call call = changes[change];
-            call.run();
+        String before = Look.state(b);
+        Change[] changes = {o -> o.finish(1), o -> o.cancel(3), o -> o.release(1, 0, 2),
+            o -> o.setCapacity(0, 40), o -> o.setMaximum(2, 0, 9), o -> o.lend(0, 2, 5),
+            o -> o.repay(1, 0, 5), o -> o.finish(2),
+            o -> Check.run(o, "finish p;finish q;finish r;resize a 9;lend p r 3;")};
+        due("55 a request that throws", STATE, () -> b.request(0, 0, 1));
+        for (int change = 0; change < changes.length; change++) {
+            PastureBanker o = queued();
+            o.lend(0, 1, 5);
+            changes[change].run(o);
             due("55 change " + change + " changes the state", false,
-                    () -> before.equals(dump(b)));
-            b.undo();
-            due("55 change " + change + " is undone", before, () -> dump(b));
+                    () -> before.equals(Look.state(o)));
+            o.undo();
+            due("55 change " + change + " is undone", before, () -> Look.state(o));
         }
         PastureBanker two = deadlocked();
-        String wanted = dump(two);
+        String wanted = Look.state(two);
         two.cancel(0);
         two.setMaximum(0, 0, 2);
         two.request(0, 0, 1);
         two.undo();
         two.undo();
         two.undo();
-        due("55 x wants what it wanted", wanted, () -> dump(two));
+        due("55 x wants what it wanted", wanted, () -> Look.state(two));
         b.finish(0);
         int length = b.writeAllocations();
         Check.put(b, "ann");
@@ -1468,57 +1420,38 @@ public final class PromiseTest {
         due("55 the position stays", 0, error::errorPosition);
     }
 
-    private static String dump(PastureBanker b) {
-        StringBuilder text = new StringBuilder(counters(b)).append("; ").append(queue(b));
-        for (int pasture = 0; pasture < b.pastureCount(); pasture++) {
-            text.append("; ").append(pastureName(b, pasture)).append(b.capacity(pasture));
-        }
-        for (int herd = 0; herd < b.herdCount(); herd++) {
-            text.append("; ").append(herdName(b, herd)).append(b.requestedPasture(herd))
-                    .append(' ').append(b.requestedAmount(herd));
-            for (int pasture = 0; pasture < b.pastureCount(); pasture++) {
-                text.append(' ').append(b.maximum(herd, pasture)).append('-')
-                        .append(b.allocation(herd, pasture));
-            }
-            for (int other = 0; other < b.herdCount(); other++) {
-                text.append(' ').append(b.debt(herd, other));
-            }
-        }
-        return text.toString();
-    }
-
     private static void promises56And57() {
         PastureBanker b = queued();
         b.lend(0, 1, 5);
-        String before = dump(b);
+        String before = Look.state(b);
         due("56 save", 2, () -> b.save(0));
-        due("56 the state stays", before, () -> dump(b));
+        due("56 the state stays", before, () -> Look.state(b));
         b.finish(1);
         b.setCapacity(0, 30);
         b.setMaximum(0, 0, 30);
         b.repay(1, 0, 5);
         due("57 restore", 2, () -> b.restore(0));
-        due("57 the state is back", before, () -> dump(b));
+        due("57 the state is back", before, () -> Look.state(b));
         due("57 no undo", STATE, b::undo);
         b.finish(2);
         due("57 stays saved", 2, () -> b.restore(0));
-        due("57 the state is back", before, () -> dump(b));
+        due("57 the state is back", before, () -> Look.state(b));
         b.finish(2);
         due("56 replaces", 1, () -> b.save(0));
         b.finish(3);
         due("57 the later one", 1, () -> b.restore(0));
-        due("57 is restored", "3 ", () -> queue(b));
+        due("57 is restored", "3 ", () -> Look.queue(b));
         b.lend(0, 1, 1);
         b.save(1);
         due("56 save leaves the changes", 0, b::undo);
         PastureBanker two = deadlocked();
-        String wanted = dump(two);
+        String wanted = Look.state(two);
         two.save(0);
         two.cancel(0);
         two.setMaximum(0, 0, 2);
         two.request(0, 0, 1);
         two.restore(0);
-        due("57 x wants what it wanted", wanted, () -> dump(two));
+        due("57 x wants what it wanted", wanted, () -> Look.state(two));
         due("56 undo leaves what is saved", 1, () -> b.restore(1));
         due("57 the loan is back", 6, () -> b.debt(1, 0));
     }
