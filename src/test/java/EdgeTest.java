@@ -25,7 +25,9 @@ public final class EdgeTest {
         deadlocks();
         debts();
         chains();
-        statistics();
+        counts();
+        utilization();
+        meanDebt();
         inconsistencies();
         request();
         release();
@@ -147,12 +149,24 @@ public final class EdgeTest {
         replaces("busy", States::busy);
         replaces("full", States::full);
         replaces("tiny", States::tiny);
+        replaces("last", EdgeTest::lastHasAll);
         about(4, "Returns the number of herds.");
         for (int herds = 1; herds <= 8; herds++) {
             int count = herds;
             due("load", "loaded " + count,
                     () -> Check.load(new PastureBanker(), States.setup(5, 1, count, 1)));
         }
+    }
+
+    /** Herd 7 holds the seven units of the pasture, herds 0 to 6 wait for one each. */
+    private static PastureBanker lastHasAll() {
+        PastureBanker b = Check.loaded(States.setup(1, 7, 8, 1));
+        b.setMaximum(7, 0, 7);
+        b.request(7, 0, 7);
+        for (int herd = 0; herd < 7; herd++) {
+            b.request(herd, 0, 1);
+        }
+        return b;
     }
 
     private static int lengthOfCopy(int length) {
@@ -167,6 +181,7 @@ public final class EdgeTest {
             "rights;pasture p 0;herd h 0;"}) {
             Look.Build loaded = () -> {
                 PastureBanker b = build.make();
+                b.bestToFinish();
                 b.truncate(0);
                 Check.load(b, setup);
                 return b;
@@ -574,6 +589,7 @@ public final class EdgeTest {
         tiny.setMaximum(0, 0, 1);
         tiny.request(0, 0, 1);
         due("one herd without units", 1, tiny::deadlockedCount);
+        due("as before", 1, tiny::deadlockedCount);
     }
 
     // ---- debts
@@ -611,6 +627,11 @@ public final class EdgeTest {
         }
         due("greatest", 6993, () -> rich.totalClaims(7));
         due("of a debtor", 0, () -> rich.totalClaims(0));
+        transitiveClaims(rich);
+    }
+
+    /** At first each herd owes herd 7, at last each one owes each one behind it. */
+    private static void transitiveClaims(PastureBanker rich) {
         about(38, "Returns the sum of all debts between two herds each of which is the given herd or "
                 + "reaches it through a chain of debts from debtor to creditor.");
         due("greatest claims", 6993, () -> rich.transitiveClaims(7));
@@ -656,6 +677,10 @@ public final class EdgeTest {
         due("one debt", 1, () -> b.debtDepth(6));
         due("the longer chain", 4, () -> b.debtDepth(3));
         due("no debts at all", 0, () -> new PastureBanker().debtDepth(0));
+        settlement(b);
+    }
+
+    private static void settlement(PastureBanker b) {
         about(37, "`position`: position in the settlement order, from 0");
         due("first", 0, () -> b.settlementOrder(0));
         due("last", 7, () -> b.settlementOrder(7));
@@ -684,7 +709,7 @@ public final class EdgeTest {
 
     // ---- statistics
 
-    private static void statistics() {
+    private static void counts() {
         PastureBanker b = waiting();
         about(39, "Returns the number of requests.");
         due("none at first", 0, () -> new PastureBanker().immediateGrants());
@@ -721,6 +746,9 @@ public final class EdgeTest {
                 return Look.counters(loaded);
             });
         }
+    }
+
+    private static void utilization() {
         about(43, "Returns the sum of the allocations divided by the capacity, both converted to "
                 + "float; 0.0f if the capacity is 0.");
         due("capacity 0", 0.0f, () -> States.tiny().utilization(0));
@@ -731,6 +759,9 @@ public final class EdgeTest {
         due("all", 1.0f, () -> used(50, 50));
         due("one of one", 1.0f, () -> used(1, 1));
         due("of all herds", 1.0f, () -> States.full().utilization(4));
+    }
+
+    private static void meanDebt() {
         about(44, "Returns the sum of all debts divided by the number of pairs of a debtor and a "
                 + "creditor with a debt above 0, both converted to double; 0.0 if there are none.");
         due("no debts", 0.0, () -> new PastureBanker().meanDebt());

@@ -1,3 +1,6 @@
+import java.util.ArrayList;
+import java.util.List;
+
 /** The boundary sentences of the document's section "Terms", a test for each. */
 public final class TermsTest {
     private static final Class<?> INDEX = IndexOutOfBoundsException.class;
@@ -266,6 +269,13 @@ public final class TermsTest {
         about("each step appends the lowest-numbered herd that is not in the order yet and can "
                 + "finish.");
         due("all can", "0 1 2 3 4 5 6 7 ", () -> Look.safeOrder(Check.loaded(States.setup(1, 8, 8, 1))));
+        // Of nine units each herd holds one, herd 7 needs one more, herd 6 two more and so on.
+        PastureBanker down = Check.loaded("rights;pasture m 9;herd a 9;herd b 8;herd c 7;herd d 6;"
+                + "herd e 5;herd f 4;herd g 3;herd h 2;");
+        for (int herd = 7; herd >= 0; herd--) {
+            down.request(herd, 0, 1);
+        }
+        due("from the last to the first", "7 6 5 4 3 2 1 0 ", () -> Look.safeOrder(down));
         PastureBanker later = Check.loaded("rights;pasture m 6;herd a 6;herd b 4;herd c 3;herd d 4;");
         later.request(2, 0, 2);
         later.request(0, 0, 1);
@@ -381,6 +391,24 @@ public final class TermsTest {
         return b;
     }
 
+    /**
+     * Of nine units each of eight herds holds one. Herd 7 does not wait; herds 6, 5 .. 0 wait for
+     * all units that are free when those behind them are picked, 2, 3 .. 8, the first ones (as many
+     * as are told) for one more. Nothing is granted, as herd 7 can never finish on pasture b.
+     */
+    private static PastureBanker descending(int tooMuch) {
+        PastureBanker b = Check.loaded(States.setup(2, 9, 8, 1));
+        for (int herd = 0; herd < 8; herd++) {
+            b.request(herd, 0, 1);
+        }
+        b.setMaximum(7, 1, 10);
+        for (int herd = 6; herd >= 0; herd--) {
+            b.setMaximum(herd, 0, 50);
+            b.request(herd, 0, 8 - herd + (herd < tooMuch ? 1 : 0));
+        }
+        return b;
+    }
+
     private static void deadlocks() {
         about("waiting for an amount that is at most the free units of its pasture");
         due("3 of 3", false, () -> unsafe(3, 0).isDeadlocked(0));
@@ -390,6 +418,18 @@ public final class TermsTest {
         due("3 of 2 and 1", false, () -> unsafe(3, 1).isDeadlocked(0));
         due("3 of 1 and 1", true, () -> unsafe(2, 1).isDeadlocked(0));
         due("3 of 0 and 3", false, () -> unsafe(3, 3).isDeadlocked(0));
+        for (int stuck = 0; stuck <= 7; stuck++) {
+            int want = stuck;
+            due("one unit too few for so many", want, () -> descending(want).deadlockedCount());
+            for (int herd = 0; herd < 8; herd++) {
+                int h = herd;
+                due("herd " + h + " of " + want, h < want, () -> descending(want).isDeadlocked(h));
+            }
+        }
+        PastureBanker asked = descending(3);
+        due("other questions", false, () -> asked.isSafe() || asked.canFinish(0));
+        due("leave the answer", 3, asked::deadlockedCount);
+        due("as it was", 3, asked::deadlockedCount);
         about("A herd is deadlocked if it can never be picked in this way.");
         due("nobody waits", 0, () -> new PastureBanker().deadlockedCount());
         due("one", 1, () -> unsafe(2, 0).deadlockedCount());
@@ -456,6 +496,7 @@ public final class TermsTest {
     private static void texts() {
         buffer();
         words();
+        literalWords();
         wordLengths();
         numberLengths();
         separators();
@@ -499,6 +540,46 @@ public final class TermsTest {
             script("" + (char) sign, isGap(sign) ? "ran 0" : "error 1 at 0");
             script("finish ann;" + (char) sign, isGap(sign) ? "ran 1" : "error 1 at 11");
         }
+    }
+
+    /** Another letter anywhere in it, one less or one more: then it is not this word any more. */
+    private static void literalWords() {
+        about("The grammar is as follows, with literal words in quotes");
+        for (String word : new String[] {"request ann fen 1;", "release ann fen 1;", "finish ann;",
+            "cancel ann;", "lend ann bob 1;", "repay ann bob 1;", "resize fen 1;"}) {
+            due(word, true, () -> Check.script(new PastureBanker(), word).startsWith("ran"));
+            for (String other : others(word)) {
+                script(other, "error 1 at 0");
+            }
+        }
+        for (String other : others("rights;pasture a 9;herd x 9;")) {
+            setup(other, "error 1 at 0");
+        }
+        for (String other : others("pasture a 9;herd x 9;")) {
+            setup("rights;" + other, "error 1 at 7");
+        }
+        for (String other : others("pasture b 9;herd x 9 9;")) {
+            setup("rights;pasture a 9;" + other, "error 1 at 19");
+        }
+        for (String other : others("herd x 9;")) {
+            setup("rights;pasture a 9;" + other, "error 1 at 19");
+            setup("rights;pasture a 9;herd y 9;" + other, "error 1 at 28");
+        }
+    }
+
+    /** The text with its first word changed in each of its letters, shortened and lengthened. */
+    private static List<String> others(String text) {
+        List<String> others = new ArrayList<>();
+        int length = text.replaceAll("[^a-z].*", "").length();
+        for (int index = 0; index < length; index++) {
+            char other = text.charAt(index) == 'z' ? 'a' : (char) (text.charAt(index) + 1);
+            others.add(text.substring(0, index) + other + text.substring(index + 1));
+        }
+        others.add(text.substring(1));
+        others.add(text.substring(0, length - 1) + text.substring(length));
+        others.add(text.substring(0, length) + 's' + text.substring(length));
+        others.add('a' + text);
+        return others;
     }
 
     private static boolean isGap(int sign) {
@@ -600,26 +681,100 @@ public final class TermsTest {
         }
     }
 
+    /** Each command alone, for the first and for the last herd and pasture. */
     private static void commands() {
-        about("lend (first the creditor, then the debtor), repay (first the debtor, then the "
-                + "creditor) and setCapacity");
-        PastureBanker b = new PastureBanker();
-        due("lend", "ran 1", () -> Check.script(b, "lend ann bob 7;"));
-        due("bob owes ann", "7 0", () -> b.debt(1, 0) + " " + b.debt(0, 1));
-        due("repay by the creditor", "ran 0", () -> Check.script(b, "repay ann bob 7;"));
-        due("repay", "ran 1", () -> Check.script(b, "repay bob ann 7;"));
-        due("no debt", 0, () -> b.debt(1, 0));
-        due("resize", "ran 1", () -> Check.script(b, "resize ridge 0;"));
-        due("capacity", 0, () -> b.capacity(2));
+        about("The commands call the methods request, release, finish, cancel, lend (first the "
+                + "creditor, then the debtor), repay (first the debtor, then the creditor) and "
+                + "setCapacity.");
+        likeMethod("request eve ridge 3;", b -> b.request(4, 2, 3));
+        likeMethod("request ann hill 7;", b -> b.request(0, 0, 7));
+        likeMethod("request ann fen 4;", b -> b.request(0, 1, 4));
+        likeMethod("release dot ridge 1;", b -> b.release(3, 2, 1));
+        likeMethod("release cid hill 2;", b -> b.release(2, 0, 2));
+        likeMethod("finish dot;", b -> b.finish(3));
+        likeMethod("finish eve;", b -> b.finish(4));
+        likeMethod("finish ann;", b -> b.finish(0));
+        likeMethod("cancel ann;", b -> b.cancel(0));
+        likeMethod("cancel eve;", b -> b.cancel(4));
+        likeMethod("lend eve ann 999;", b -> b.lend(4, 0, 999));
+        likeMethod("lend bob ann 1;", b -> b.lend(1, 0, 1));
+        likeMethod("repay ann bob 10;", b -> b.repay(0, 1, 10));
+        likeMethod("repay dot eve 1;", b -> b.repay(3, 4, 1));
+        likeMethod("resize hill 50;", b -> b.setCapacity(0, 50));
+        likeMethod("resize ridge 5;", b -> b.setCapacity(2, 5));
+    }
+
+    private interface Change {
+        Object run(PastureBanker b);
+    }
+
+    /** After the script the state is as after the call, even if that would throw. */
+    private static void likeMethod(String script, Change call) {
+        PastureBanker called = States.busy();
+        boolean done = true;
+        try {
+            call.run(called);
+        } catch (IllegalStateException e) {
+            done = false;
+        }
+        String want = (done ? "ran 1, " : "ran 0, ") + Look.state(called);
+        due(script, want, () -> {
+            PastureBanker b = States.busy();
+            b.truncate(0);
+            return Check.script(b, script) + ", " + Look.state(b);
+        });
     }
 
     // ---- errors
 
     private static void errors() {
+        places();
         position();
         lowestCode();
         codes();
         scripts();
+    }
+
+    /** Each token cut off, and each replaced by tokens of the other kinds. */
+    private static void places() {
+        about("a token that the grammar does not allow at this place");
+        places("rights ; pasture a 9 ; pasture b 8 ; herd x 9 8 ; herd y 7 6 ;", true);
+        places("rights ; pasture a 9 ; herd x 9 ; herd y 7 ;", true);
+        for (String command : new String[] {"request ann hill 1 ;", "release ann hill 1 ;",
+            "finish ann ;", "cancel ann ;", "lend ann bob 1 ;", "repay ann bob 1 ;",
+            "resize hill 1 ;"}) {
+            places(command, false);
+            places("finish bob ; " + command, false);
+        }
+    }
+
+    private static void places(String text, boolean isSetup) {
+        String[] tokens = text.split(" ");
+        String before = "";
+        for (String token : tokens) {
+            boolean isWord = Character.isLetter(token.charAt(0));
+            boolean isNumber = Character.isDigit(token.charAt(0));
+            boolean mayEnd = before.isEmpty() || before.endsWith("; ");
+            // A setup may end behind a herd only, a script behind each command.
+            boolean isEnd = mayEnd && (!isSetup || before.contains("herd"));
+            notAllowed(before, isWord || isNumber ? ";" : "7", isSetup);
+            notAllowed(before, isWord ? "7" : "q", isSetup);
+            notAllowed(before, "$", isSetup);
+            if (!isEnd) {
+                notAllowed(before, "", isSetup);
+            }
+            before += token + " ";
+        }
+    }
+
+    private static void notAllowed(String before, String token, boolean isSetup) {
+        if (isSetup) {
+            setupFails(1, before, token);
+            setupFails(1, before, token + "$");
+        } else {
+            scriptFails(1, before, token);
+            scriptFails(1, before, token + "$");
+        }
     }
 
     private static void position() {
@@ -795,46 +950,31 @@ public final class TermsTest {
         }
     }
 
+    /** Each kind of change, as the only one since the state was restored. */
     private static void kinds() {
         about("The methods in the section \"changes\" are changes if they do not throw an exception.");
-        for (int kind = 0; kind < 10; kind++) {
+        Change[] changes = {b -> b.request(1, 0, 1), b -> b.request(2, 0, 6),
+            b -> b.release(2, 0, 3), b -> b.finish(3), b -> b.finish(0), b -> b.cancel(4),
+            b -> b.setCapacity(0, 50), b -> b.setMaximum(0, 0, 50), b -> b.lend(1, 0, 1),
+            b -> b.repay(0, 1, 10), PastureBanker::runScript,
+            b -> Check.run(b, "finish ann;finish eve;"), b -> Check.run(b, "cancel bob;"),
+            // Nothing is different after these, and yet they are changes.
+            b -> b.setCapacity(1, 5), b -> b.setMaximum(0, 0, 7), b -> b.finish(3)};
+        for (int kind = 0; kind < changes.length; kind++) {
             PastureBanker b = States.busy();
-            b.restore(1);
-            String before = Look.state(b);
-            int change = kind;
+            b.truncate(0);
+            b.save(0);
+            b.restore(0);
+            Change change = changes[kind];
             due("none at first", STATE, b::undo);
-            due("change " + kind + " throws", false, () -> change(b, change) == null);
+            due("change " + kind, false, () -> change.run(b) == null);
             due("change " + kind, 0, b::undo);
-            due("is undone", before, () -> Look.state(b));
+            due("is undone", Look.state(States.busy()), () -> Look.state(b));
             due("was the only one", STATE, b::undo);
         }
-    }
-
-    private static Object change(PastureBanker b, int kind) {
-        switch (kind) {
-            case 0:
-                return b.request(1, 0, 1);
-            case 1:
-                return b.request(0, 0, 7);
-            case 2:
-                return b.release(2, 0, 3);
-            case 3:
-                return b.finish(3);
-            case 4:
-                return b.setCapacity(0, 50);
-            case 5:
-                return b.setMaximum(0, 0, 50);
-            case 6:
-                return b.lend(1, 0, 1);
-            case 7:
-                return b.repay(0, 1, 10);
-            case 8:
-                b.truncate(0);
-                return b.runScript();
-            default:
-                // Nothing is different after this one, and yet it is a change.
-                return b.setCapacity(1, 5);
-        }
+        PastureBanker refused = new PastureBanker();
+        due("what throws", STATE, () -> refused.lend(0, 0, 1));
+        due("is no change", STATE, refused::undo);
     }
 
     private static void outsideTheState() {
@@ -868,6 +1008,31 @@ public final class TermsTest {
         due("restore brings the queue back", "", () -> Look.queue(restored.make()));
         due("restore brings the counters back", 0, () -> restored.make().queuedRequests());
         savesLeave();
+        otherRequest();
+    }
+
+    /** A herd that waits for another amount of another pasture waits again as it did before. */
+    private static void otherRequest() {
+        PastureBanker b = States.full();
+        String before = Look.state(States.full());
+        b.save(0);
+        for (int time = 0; time < 2; time++) {
+            b.cancel(7);
+            b.setMaximum(7, 0, 50);
+            b.request(7, 0, 49);
+            due("wants another one", "49 of 0",
+                    () -> b.requestedAmount(7) + " of " + b.requestedPasture(7));
+            if (time == 0) {
+                b.undo();
+                b.undo();
+                b.undo();
+            } else {
+                b.restore(0);
+            }
+            due("wants as before", "8 of 4",
+                    () -> b.requestedAmount(7) + " of " + b.requestedPasture(7));
+        }
+        due("all is as before", before, () -> Look.state(b));
     }
 
     private static void savesLeave() {
