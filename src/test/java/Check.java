@@ -39,11 +39,15 @@ final class Check {
         about = subject + ": ";
     }
 
+    /** Ends a test; another one may begin behind it if nothing was wrong. */
     static void finish(String test) {
         System.out.println(test + ": " + done + " checks, " + wrong + " wrong");
         if (wrong != 0) {
             System.exit(1);
         }
+        done = 0;
+        doneBefore = -1;
+        about = "";
     }
 
     /** Appends a text of characters 0 to 255 to the input buffer. */

@@ -12,10 +12,16 @@ import java.util.regex.Pattern;
 
 /** The class shows exactly the face that the document prints, and keeps to rules that can be seen. */
 public final class FaceTest {
+    private static final Pattern METHOD =
+            Pattern.compile("( {4}| {8})(?=\\S)(?!.*\\bclass ).*[(,].*");
+
     public static void main(String[] args) throws Exception {
         face();
         classesInside();
-        library();
+        String source = Files.readString(Path.of("src/main/java/PastureBanker.java"));
+        library(source);
+        exceptions(source.replaceAll("(?s)/\\*.*?\\*/|//[^\n]*", ""));
+        lengths(source.split("\n"));
         Check.finish("FaceTest");
     }
 
@@ -94,12 +100,27 @@ public final class FaceTest {
         Class<?>[] inside = PastureBanker.class.getDeclaredClasses();
         Check.due("at most twelve classes", true, () -> inside.length + 1 <= 12);
         checkFields(PastureBanker.class);
+        checkMethods(PastureBanker.class, Set.of());
+        Set<String> face = new TreeSet<>();
+        for (Method method : PastureBanker.class.getMethods()) {
+            face.add(method.getName());
+        }
         for (Class<?> one : inside) {
             int how = one.getModifiers();
             Check.due(one + " is static and not public", true,
                     () -> Modifier.isStatic(how) && !Modifier.isPublic(how)
                             && !Modifier.isProtected(how));
             checkFields(one);
+            checkMethods(one, face);
+        }
+    }
+
+    private static void checkMethods(Class<?> one, Set<String> otherNames) {
+        for (Method method : one.getDeclaredMethods()) {
+            Check.due(method + " has at most seven parameters", true,
+                    () -> method.getParameterCount() <= 7);
+            Check.due(method + " bears a name of the face", false,
+                    () -> otherNames.contains(method.getName()));
         }
     }
 
@@ -116,18 +137,48 @@ public final class FaceTest {
         Check.due(one + " has at most twenty fields", true, () -> few);
     }
 
-    /** The words of the source that rules 2 to 6 and 13 of LANGUAGE.md leave out. */
-    private static void library() throws Exception {
-        String source = Files.readString(Path.of("src/main/java/PastureBanker.java"));
+    /** The words of the source that rules 2 to 6, 10 and 13 of LANGUAGE.md leave out. */
+    private static void library(String source) {
         String[] never = {"->", "::", "catch", "finally", "synchronized", "assert ", "instanceof",
             "Exact(", "java.util.concurrent", "Thread", "System.nanoTime", "System.currentTime",
             "System.out", "Random", "File", "import java.io", "import java.nio", "hashCode",
-            "toString", "HashMap", "String.format", "package "};
+            "toString", "HashMap", "String.format", "package ", "\" +", "+ \"", "static {"};
         for (String word : never) {
             Check.due("the source holds <" + word + ">", false, () -> source.contains(word));
         }
         Check.due("imports", source.indexOf("import "), () -> source.lastIndexOf("import "));
         Check.due("characters 1 to 127 only", true,
                 () -> source.chars().allMatch(sign -> sign >= 1 && sign <= 127));
+    }
+
+    /** Each throw of the code makes an exception of rule 6 with a written text. */
+    private static void exceptions(String code) {
+        Matcher each = Pattern.compile("\\bthrow\\b[^;]*;").matcher(code);
+        while (each.find()) {
+            String line = each.group();
+            Check.due("<" + line + ">", true, () -> line.matches("throw new (IllegalState|"
+                    + "IllegalArgument|IndexOutOfBounds|NoSuchElement)Exception\\(\"[^\"]*\"\\);"));
+        }
+    }
+
+    /** A method begins with a line that opens a brace and ends with the brace below its first sign. */
+    private static void lengths(String[] lines) {
+        int methods = 0;
+        for (int first = 0; first < lines.length; first++) {
+            String line = lines[first];
+            Matcher head = METHOD.matcher(line);
+            if (head.matches() && !line.contains(";") && !line.contains("*")) {
+                int last = first;
+                while (!lines[last].equals(head.group(1) + "}")) {
+                    last++;
+                }
+                int length = last - first + 1;
+                Check.due("<" + line + "> has at most sixty lines", true, () -> length <= 60);
+                methods++;
+                first = last;
+            }
+        }
+        int found = methods;
+        Check.due("methods found", true, () -> found > 150);
     }
 }

@@ -1,21 +1,31 @@
 import java.nio.file.Files;
 import java.nio.file.Path;
 import java.util.ArrayList;
-import java.util.HashMap;
+import java.util.Arrays;
+import java.util.LinkedHashMap;
 import java.util.List;
 import java.util.Map;
 
 /** Ties tests to the document: each names the sentence that it is about, which must stand there. */
 final class Sentences {
+    private static final String WHAT_IT_IS = "What it is";
     private static final String TERMS = "Terms";
     private static final Map<String, String> SECTIONS = sections();
     private static final List<String> quoted = new ArrayList<>();
+
+    /** The document's title, the face (see FaceTest), and what is not promised. */
+    private static final List<String> WITHOUT_SENTENCES =
+            List.of("# PastureBanker", "The public face", "Not promised");
+    /** A section's heading, a call of the face before its sentences, and titles of paragraphs. */
+    private static final String NO_SENTENCES = "^[^\n]*\n|(?m)^`[^`]*`:|^A manager of grazing rights "
+            + "on shared pastures\\.$|^(Pastures and herds|Safe states|Requests|Deadlocks|Debts|Texts"
+            + "|Errors|Undo)\\.";
 
     private Sentences() {
     }
 
     private static Map<String, String> sections() {
-        Map<String, String> sections = new HashMap<>();
+        Map<String, String> sections = new LinkedHashMap<>();
         try {
             for (String part : Files.readString(Path.of("../shared/DOC.md")).split("\n## ")) {
                 String heading = part.substring(0, part.indexOf('\n'));
@@ -25,6 +35,14 @@ final class Sentences {
             throw new java.io.UncheckedIOException(e);
         }
         return sections;
+    }
+
+    static String terms() {
+        return SECTIONS.get(TERMS);
+    }
+
+    static void aboutWhatItIs(String sentence) {
+        about(WHAT_IT_IS, sentence);
     }
 
     static void aboutTerms(String sentence) {
@@ -60,5 +78,32 @@ final class Sentences {
     private static boolean isQuoted(String section, String line) {
         return quoted.stream().anyMatch(quote -> quote.startsWith(section + " ")
                 && line.contains(quote.substring(section.length() + 1)));
+    }
+
+    /** Each word of each sentence of the document must stand in one of the quotes. */
+    static void allSentencesQuoted() {
+        Check.about("The document");
+        SECTIONS.forEach((section, text) -> {
+            if (!WITHOUT_SENTENCES.contains(section)) {
+                Check.due(section + ", words without a test", "", () -> unquoted(section, text));
+            }
+        });
+        Check.due("sections", 64, SECTIONS::size);
+    }
+
+    private static String unquoted(String section, String text) {
+        char[] left = text.toCharArray();
+        for (String quote : quoted) {
+            if (quote.startsWith(section + " ")) {
+                String sentence = quote.substring(section.length() + 1);
+                int from = text.indexOf(sentence);
+                while (from >= 0) {
+                    Arrays.fill(left, from, from + sentence.length(), ' ');
+                    from = text.indexOf(sentence, from + 1);
+                }
+            }
+        }
+        String rest = new String(left).replaceAll(NO_SENTENCES, "");
+        return rest.replaceAll("[^A-Za-z0-9]+", " ").trim();
     }
 }
