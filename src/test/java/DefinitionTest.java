@@ -15,6 +15,7 @@ public final class DefinitionTest {
         safeStates();
         queue();
         deadlocks();
+        waitsFor();
         why();
         largestGrant();
         safeCapacity();
@@ -250,6 +251,26 @@ public final class DefinitionTest {
             }
         }
         return left;
+    }
+
+    private static void waitsFor() {
+        Sentences.aboutTerms("A waiting herd waits for another herd if the amount of its request "
+                + "exceeds the available units of the requested pasture, and the other herd holds at "
+                + "least one unit of this pasture.");
+        for (int run = 0; run < RUNS; run++) {
+            PastureBanker b = state(run);
+            Units units = new Units(b);
+            for (int herd = 0; herd < HERDS; herd++) {
+                for (int other = 0; other < HERDS; other++) {
+                    int h = herd;
+                    int o = other;
+                    int pasture = units.wantsOf[h];
+                    boolean want = h != o && units.wants[h] > 0
+                            && units.wants[h] > units.free[pasture] && units.holds[o][pasture] > 0;
+                    due(run, h + " for " + o, want, () -> b.waitsFor(h, o));
+                }
+            }
+        }
     }
 
     private static void why() {

@@ -439,6 +439,7 @@ public final class TermsTest {
                 + "available units of the requested pasture, and the other herd holds at least one "
                 + "unit of this pasture.");
         due("3 of 3, y holds 1", false, () -> unsafe(4, 1).waitsFor(0, 1));
+        due("3 of 8, y holds 1", false, () -> unsafe(9, 1).waitsFor(0, 1));
         due("3 of 2, y holds 1", true, () -> unsafe(3, 1).waitsFor(0, 1));
         due("3 of 0, y holds 9", true, () -> unsafe(9, 9).waitsFor(0, 1));
         due("3 of 2, y holds 0", false, () -> unsafe(2, 0).waitsFor(0, 1));
